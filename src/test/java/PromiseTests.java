@@ -26,6 +26,8 @@ public final class PromiseTests {
         rulesRefused();
         rulesTooMany();
         ruleTooMuch();
+        ruleTooMuchHalfway();
+        rulesOfWholeTriples();
         unruling();
         holding();
         supports();
@@ -282,6 +284,41 @@ public final class PromiseTests {
         due("299 again", x.size(), 299);
         due("say two more", x.say(31, 31, 0), FULL);
         due("299 yet", x.size(), 299);
+    }
+
+    private static void ruleTooMuchHalfway() {
+        RuleKeeper x = withSaid(160);
+        due("a rule by the way", ruleOf(x, -1, -2, 1, -1, -2, 2), 0);
+        due("doubles too many", ruleOf(x, -1, -2, 0, -1, -2, 1), FULL);
+        due("none of its heads stays", x.size(), 160);
+        due("not the first", x.holds(0, 0, 1), 0);
+        due("nor what follows from it", x.holds(0, 0, 2), 0);
+        due("no case", x.support(0, 0, 1), 0);
+        due("the other rule stays", x.rules(), 1);
+        due("its patterns stay", x.pattern(-1, -2, 3), 3);
+        due("a say that follows nothing", x.say(20, 20, 0), 1);
+        due("161 hold", x.size(), 161);
+        due("as head of two", x.rule(), 1);
+        due("the middle one is of the body now", x.size(), 161);
+    }
+
+    /** Triples of the same numbers in other places are other triples, in every pattern of a body. */
+    private static void rulesOfWholeTriples() {
+        RuleKeeper x = new RuleKeeper();
+        due("turned", ruleOf(x, 9, 9, 9, -1, -2, -3, 20, 21, 22, -3, -1, -2), 0);
+        due("there and back", ruleOf(x, -1, -2, -3, -3, -2, -1, 8, 8, 8), 1);
+        x.say(0, 1, 0);
+        x.say(0, 0, 1);
+        x.say(20, 21, 22);
+        due("one is its own way back, and so is the head", x.support(8, 8, 8), 2);
+        x.say(9, 9, 9);
+        due("0 1 0 turned", x.holds(0, 0, 1), 1);
+        due("0 0 1 turned", x.holds(1, 0, 0), 2);
+        due("20 21 22 turned", x.holds(22, 20, 21), 2);
+        due("and turned again", x.holds(21, 22, 20), 2);
+        due("all", x.size(), 8);
+        due("0 1 0 comes from 1 0 0", x.support(0, 1, 0), 1);
+        due("five ways back, and 8 8 8 turned", x.support(8, 8, 8), 6);
     }
 
     // Promises 6 and 7
