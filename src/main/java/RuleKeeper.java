@@ -16,6 +16,8 @@ public final class RuleKeeper {
     private static final int NUMBER_BITS = 5;
     private static final int NUMBER_MASK = NUMBERS - 1;
     private static final int ITEMS = 3;
+    private static final int[] SHIFTS = {10, 5, 0};
+    private static final int FIRST_SHIFT = 10;
     private static final int ALL_ITEMS_MASK = NUMBERS * NUMBERS * NUMBERS - 1;
     private static final int PAIRS = NUMBERS * NUMBERS;
     private static final int VARIABLES = 8;
@@ -258,20 +260,15 @@ public final class RuleKeeper {
         for (int at = start; at < held.count && at < MOST_TRIPLES; at++) {
             int first = at < settled ? Math.max(madeCount - 1, 0) : 0;
             for (int k = first; k < madeCount; k++) {
-                if (!solver.deriveWith(made[k], at)) {
-                    return false;
+                Rule rule = made[k];
+                for (int i = 0; i < rule.body.length; i++) {
+                    if (!solver.derive(rule, i, at)) {
+                        return false;
+                    }
                 }
             }
         }
         return true;
-    }
-
-    private static int shiftOf(int at) {
-        return (ITEMS - 1 - at) * NUMBER_BITS;
-    }
-
-    private static int variableOf(int item) {
-        return (-1 - item) & (VARIABLES - 1);
     }
 
     /** A set of codes, a bit for each. */
@@ -283,23 +280,15 @@ public final class RuleKeeper {
         }
 
         boolean has(int code) {
-            return (words[wordOf(code)] & bitOf(code)) != 0;
+            return (words[(code >> NUMBER_BITS) & (PAIRS - 1)] & (1 << (code & NUMBER_MASK))) != 0;
         }
 
         void put(int code) {
-            words[wordOf(code)] |= bitOf(code);
+            words[(code >> NUMBER_BITS) & (PAIRS - 1)] |= 1 << (code & NUMBER_MASK);
         }
 
         void drop(int code) {
-            words[wordOf(code)] &= ~bitOf(code);
-        }
-
-        private static int wordOf(int code) {
-            return (code >> NUMBER_BITS) & (PAIRS - 1);
-        }
-
-        private static int bitOf(int code) {
-            return 1 << (code & NUMBER_MASK);
+            words[(code >> NUMBER_BITS) & (PAIRS - 1)] &= ~(1 << (code & NUMBER_MASK));
         }
     }
 
@@ -351,9 +340,13 @@ public final class RuleKeeper {
         }
     }
 
-    /** Three items; sets of variables are masks, with bit v for the variable -1 - v. */
+    /**
+     * Three items. A set of variables is a mask with a bit for each; bits has, for each item, the bit
+     * of its variable (0 for a number), and slots the place of its value among the values.
+     */
     private static final class Pattern {
-        final int[] items;
+        final int[] bits;
+        final int[] slots;
         final int variables;
         final int numberMask;
         final int numberCode;
@@ -362,16 +355,20 @@ public final class RuleKeeper {
         final boolean sameBC;
 
         Pattern(int a, int b, int c) {
-            items = new int[] {a, b, c};
+            int[] items = {a, b, c};
+            bits = new int[ITEMS];
+            slots = new int[ITEMS];
             int seen = 0;
             int mask = 0;
             int code = 0;
             for (int at = 0; at < ITEMS; at++) {
                 if (items[at] < 0) {
-                    seen |= 1 << variableOf(items[at]);
+                    slots[at] = (-1 - items[at]) & (VARIABLES - 1);
+                    bits[at] = 1 << slots[at];
+                    seen |= bits[at];
                 } else {
-                    mask |= NUMBER_MASK << shiftOf(at);
-                    code |= items[at] << shiftOf(at);
+                    mask |= NUMBER_MASK << SHIFTS[at];
+                    code |= items[at] << SHIFTS[at];
                 }
             }
             variables = seen;
@@ -388,8 +385,8 @@ public final class RuleKeeper {
 
         /** Whether the code has equal numbers where equal items stand. */
         boolean agrees(int code) {
-            int a = code >> shiftOf(0);
-            int b = (code >> shiftOf(1)) & NUMBER_MASK;
+            int a = code >> FIRST_SHIFT;
+            int b = (code >> NUMBER_BITS) & NUMBER_MASK;
             int c = code & NUMBER_MASK;
             return (!sameAB || a == b) && (!sameAC || a == c) && (!sameBC || b == c);
         }
@@ -398,8 +395,8 @@ public final class RuleKeeper {
         int maskOf(int wanted) {
             int mask = 0;
             for (int at = 0; at < ITEMS; at++) {
-                if (isOneOf(items[at], wanted)) {
-                    mask |= NUMBER_MASK << shiftOf(at);
+                if ((bits[at] & wanted) != 0) {
+                    mask |= NUMBER_MASK << SHIFTS[at];
                 }
             }
             return mask;
@@ -409,8 +406,8 @@ public final class RuleKeeper {
         int filled(int wanted, int[] values) {
             int code = 0;
             for (int at = 0; at < ITEMS; at++) {
-                if (isOneOf(items[at], wanted)) {
-                    code |= values[variableOf(items[at])] << shiftOf(at);
+                if ((bits[at] & wanted) != 0) {
+                    code |= values[slots[at]] << SHIFTS[at];
                 }
             }
             return code;
@@ -419,14 +416,10 @@ public final class RuleKeeper {
         /** Gives these variables the numbers that the code has in their place. */
         void bind(int code, int wanted, int[] values) {
             for (int at = 0; at < ITEMS; at++) {
-                if (isOneOf(items[at], wanted)) {
-                    values[variableOf(items[at])] = (code >> shiftOf(at)) & NUMBER_MASK;
+                if ((bits[at] & wanted) != 0) {
+                    values[slots[at]] = (code >> SHIFTS[at]) & NUMBER_MASK;
                 }
             }
-        }
-
-        private static boolean isOneOf(int item, int wanted) {
-            return item < 0 && ((wanted >> variableOf(item)) & 1) != 0;
         }
     }
 
@@ -479,7 +472,7 @@ public final class RuleKeeper {
             for (int i = 0; i < length && i < triples.count; i++) {
                 int code = triples.codes[i];
                 if ((code & mask) == want && source.agrees(code)) {
-                    take(code & keptMask, keptMask);
+                    take(code & keptMask, placeOf(code & keptMask, keptMask), keptMask);
                 }
             }
             for (int i = 0; i < count; i++) {
@@ -487,9 +480,8 @@ public final class RuleKeeper {
             }
         }
 
-        private void take(int part, int keptMask) {
-            int place = placeOf(part, keptMask);
-            // Whole triples differ always, and two of them may meet in one place.
+        private void take(int part, int place, int keptMask) {
+            // Whole triples always differ, though two of them may meet in one place.
             int known = keptMask == ALL_ITEMS_MASK ? 0 : places[place];
             if (known > 0 && known <= count) {
                 times[known - 1]++;
@@ -503,7 +495,7 @@ public final class RuleKeeper {
 
         /** One place for each part, as long as no more than two of its numbers are kept. */
         private static int placeOf(int part, int keptMask) {
-            boolean firstIsKept = (keptMask >> shiftOf(0)) != 0;
+            boolean firstIsKept = (keptMask >> FIRST_SHIFT) != 0;
             int folded = firstIsKept ? (part >> NUMBER_BITS) | (part & NUMBER_MASK) : part;
             return folded & (PAIRS - 1);
         }
@@ -531,31 +523,10 @@ public final class RuleKeeper {
         }
 
         /**
-         * Adds the heads of the cases in which the triple at the place newest has a part, and no
-         * later one has; false when they are too many.
+         * Adds the heads of the cases in which the newest triple stands at one pattern of the body, and
+         * triples up to it at the others; false when they are too many.
          */
-        boolean deriveWith(Rule rule, int newest) {
-            for (int i = 0; i < rule.body.length; i++) {
-                if (!deriveAt(rule, i, newest)) {
-                    return false;
-                }
-            }
-            return true;
-        }
-
-        int casesGiving(Rule rule, int code) {
-            if (!rule.head.fits(code)) {
-                return 0;
-            }
-            int bound = rule.head.variables;
-            rule.head.bind(code, bound, values);
-            if (!fillColumns(rule, NOWHERE, bound, held.count)) {
-                return 0;
-            }
-            return countJoined(0, bound);
-        }
-
-        private boolean deriveAt(Rule rule, int where, int newest) {
+        boolean derive(Rule rule, int where, int newest) {
             Pattern here = rule.body[where];
             int code = held.codes[newest];
             if (!here.fits(code)) {
@@ -570,7 +541,19 @@ public final class RuleKeeper {
             if (!fillColumns(rule, where, bound, newest + 1)) {
                 return true;
             }
-            return addJoined(rule, 0, bound);
+            return addJoined(this, rule, 0, bound);
+        }
+
+        int casesGiving(Rule rule, int code) {
+            if (!rule.head.fits(code)) {
+                return 0;
+            }
+            int bound = rule.head.variables;
+            rule.head.bind(code, bound, values);
+            if (!fillColumns(rule, NOWHERE, bound, held.count)) {
+                return 0;
+            }
+            return countJoined(this, 0, bound);
         }
 
         private boolean isMatchedBefore(Pattern here, int bound, int length) {
@@ -604,45 +587,47 @@ public final class RuleKeeper {
             return true;
         }
 
-        private boolean addJoined(Rule rule, int depth, int bound) {
+        /** Joins the columns from depth on and adds each head that is new; false when there is no room. */
+        private static boolean addJoined(Solver solver, Rule rule, int depth, int bound) {
             boolean headIsKnown = (rule.head.variables & ~bound) == 0;
-            int code = rule.head.numberCode | rule.head.filled(bound, values);
-            if (headIsKnown && held.has(code)) {
+            int code = rule.head.numberCode | rule.head.filled(bound, solver.values);
+            if (headIsKnown && solver.held.has(code)) {
                 return true;
             }
-            if (depth >= columnCount) {
-                return held.add(code);
+            if (depth >= solver.columnCount) {
+                return solver.held.add(code);
             }
-            Column column = columns[depth];
+            Column column = solver.columns[depth];
             int mask = column.source.maskOf(column.kept & bound);
-            int want = column.source.filled(column.kept & bound, values);
+            int want = column.source.filled(column.kept & bound, solver.values);
             for (int i = 0; i < column.count; i++) {
                 if ((column.parts[i] & mask) != want) {
                     continue;
                 }
-                column.source.bind(column.parts[i], column.kept & ~bound, values);
-                if (!addJoined(rule, depth + 1, bound | column.kept)) {
+                column.source.bind(column.parts[i], column.kept & ~bound, solver.values);
+                if (!addJoined(solver, rule, depth + 1, bound | column.kept)) {
                     return false;
                 }
-                if (headIsKnown && held.has(code)) {
+                if (headIsKnown && solver.held.has(code)) {
                     return true;
                 }
             }
             return true;
         }
 
-        private int countJoined(int depth, int bound) {
-            if (depth >= columnCount) {
+        /** Joins the columns from depth on: how many cases they make. */
+        private static int countJoined(Solver solver, int depth, int bound) {
+            if (depth >= solver.columnCount) {
                 return 1;
             }
-            Column column = columns[depth];
+            Column column = solver.columns[depth];
             int mask = column.source.maskOf(column.kept & bound);
-            int want = column.source.filled(column.kept & bound, values);
+            int want = column.source.filled(column.kept & bound, solver.values);
             int sum = 0;
             for (int i = 0; i < column.count; i++) {
                 if ((column.parts[i] & mask) == want) {
-                    column.source.bind(column.parts[i], column.kept & ~bound, values);
-                    sum += column.times[i] * countJoined(depth + 1, bound | column.kept);
+                    column.source.bind(column.parts[i], column.kept & ~bound, solver.values);
+                    sum += column.times[i] * countJoined(solver, depth + 1, bound | column.kept);
                 }
             }
             return sum;
