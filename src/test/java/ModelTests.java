@@ -226,7 +226,10 @@ public final class ModelTests {
         }
     }
 
-    /** How a run draws its numbers: a small world meets itself often, a wide one fills up. */
+    /**
+     * How a run draws its numbers: a small world meets itself often, a wide one fills up. In an open
+     * run the middle of a triple is drawn like its ends.
+     */
     private static final class Run {
         final Random random;
         final int world;
@@ -234,6 +237,7 @@ public final class ModelTests {
         final int names;
         final int bodies;
         final int sayWeight;
+        final boolean isOpen;
         final RuleKeeper real = new RuleKeeper();
         final Model model = new Model();
 
@@ -244,6 +248,7 @@ public final class ModelTests {
             names = 2 + random.nextInt(7);
             bodies = 1 + random.nextInt(3);
             sayWeight = 20 + random.nextInt(30);
+            isOpen = seed % 4 == 1;
         }
 
         /** A run whose rules meet so much from the first that many of them are too much. */
@@ -257,7 +262,7 @@ public final class ModelTests {
         }
 
         int verb() {
-            return random.nextInt(50) == 0 ? random.nextInt(32) : random.nextInt(verbs);
+            return random.nextInt(50) == 0 ? random.nextInt(32) : random.nextInt(isOpen ? world : verbs);
         }
 
         int item() {
@@ -269,7 +274,7 @@ public final class ModelTests {
         }
 
         int verbItem() {
-            return random.nextInt(6) == 0 ? item() : verb();
+            return isOpen || random.nextInt(6) == 0 ? item() : verb();
         }
 
         /** Mostly an item that can stand in a head: for a variable, one of the patterns before it. */
