@@ -39,6 +39,7 @@ public final class FaceTests {
     private static void members() {
         Class<?> face = RuleKeeper.class;
         check(Modifier.isPublic(face.getModifiers()) && Modifier.isFinal(face.getModifiers()), "not public final");
+        check(face.getSuperclass() == Object.class && face.getInterfaces().length == 0, "it is more than itself");
         Set<String> seen = new TreeSet<>();
         for (Method m : face.getDeclaredMethods()) {
             String name = m.getName() + "/" + m.getParameterCount();
@@ -47,7 +48,11 @@ public final class FaceTests {
                 continue;
             }
             seen.add(name);
-            check(Modifier.isPublic(m.getModifiers()) && m.getReturnType() == int.class, "odd method " + name);
+            check(Modifier.isPublic(m.getModifiers()) && !Modifier.isStatic(m.getModifiers()), "odd method " + name);
+            check(m.getReturnType() == int.class, "odd answer of " + name);
+            for (Class<?> type : m.getParameterTypes()) {
+                check(type == int.class, "odd parameter of " + name);
+            }
         }
         check(seen.equals(METHODS), "methods are " + seen);
         Set<String> constants = new TreeSet<>();
@@ -57,6 +62,7 @@ public final class FaceTests {
             if (!Modifier.isPrivate(f.getModifiers())) {
                 constants.add(f.getName());
                 check(isStatic && Modifier.isPublic(f.getModifiers()), "odd field " + f.getName());
+                check(f.getType() == int.class, "odd constant " + f.getName());
             }
         }
         check(constants.equals(CONSTANTS), "constants are " + constants);
